@@ -48,8 +48,9 @@ public final class SoWhen {
     /** What a shelf holds, when it holds a row: this and the row's sort. */
     private static final int ROW = 100;
 
-    /** The choice of an hour in which nothing happens. */
+    /** The choice of an hour in which nothing happens; those below it are the happenings. */
     private static final int IDLE = 6;
+    private static final int CHOICES = IDLE + 1;
 
     /**
      * A state of an hour: two bits of SPAN pieces that came already, five of KEPT things, three of
@@ -58,6 +59,7 @@ public final class SoWhen {
     private static final int STATES = 1024;
     private static final int TOP_SHIFT = 8;
     private static final int KEPT_SHIFT = 3;
+    private static final int LOW_BITS = (1 << TOP_SHIFT) - 1;
 
     /** In a look's truth: the things' bits from 0 on, then the happenings' conditions, then this. */
     private static final int LAW_BITS = MOST_THINGS;
@@ -68,8 +70,9 @@ public final class SoWhen {
     private final World image = new World();
     private final Reader reader = new Reader(world);
     private final int[] truth = new int[STATES];
-    private final Courses now = new Courses(world, truth);
-    private final Courses trial = new Courses(world, truth);
+    private final int[] nexts = new int[STATES * CHOICES];
+    private final Courses now = new Courses(world, truth, nexts);
+    private final Courses trial = new Courses(world, truth, nexts);
     private final int[] refusals = new int[8];
     private final int[] lastAct = new int[1 + Seen.TRACED];
     private boolean imaged = false;
@@ -661,7 +664,7 @@ public final class SoWhen {
         if (nowStale) {
             nowStale = false;
             if (now.find(world.inForce())) {
-                now.keepBest();
+                now.keepBest(0);
             }
         }
         return now;
@@ -670,7 +673,7 @@ public final class SoWhen {
     private void freshenTruth() {
         if (truthStale) {
             truthStale = false;
-            world.fillTruth(truth);
+            world.fillTables(truth, nexts);
         }
     }
 
@@ -684,7 +687,7 @@ public final class SoWhen {
         if (!trial.find(set)) {
             return NONE;
         }
-        trial.keepBest();
+        trial.keepBest(hour);
         return trial.soOf(thing, hour);
     }
 
@@ -696,7 +699,7 @@ public final class SoWhen {
         if (!trial.findWith(world.inForce(), happening, hour)) {
             return false;
         }
-        trial.keepBest();
+        trial.keepBest(q);
         return trial.soOf(thing, q) == 1;
     }
 
@@ -1214,14 +1217,17 @@ public final class SoWhen {
             return 1 << countOf(KEPT);
         }
 
-        void fillTruth(int[] truth) {
+        /** By look what stands in it; by look and choice the state (but SPAN bits) to follow. */
+        void fillTables(int[] truth, int[] nexts) {
             int looks = freeLooks();
             int below = keptStates() << KEPT_SHIFT;
             for (int free = 0; free < looks; free++) {
                 for (int low = 0; low < below; low++) {
                     int look = free << TOP_SHIFT | low;
-                    if (look < truth.length) {
-                        truth[look] = truthOf(free, low >> KEPT_SHIFT, low & MOST_VALUE);
+                    int stands = truthOf(free, low >> KEPT_SHIFT, low & MOST_VALUE);
+                    truth[look] = stands;
+                    for (int choice = 0; choice < CHOICES; choice++) {
+                        nexts[look * CHOICES + choice] = nextOf(low, stands, choice);
                     }
                 }
             }
@@ -1262,8 +1268,8 @@ public final class SoWhen {
             }
         }
 
-        /** The state (without SPAN bits) of the next hour; NONE if the choice can't be. */
-        int nextOf(int low, int truth, int choice) {
+        /** The state (but SPAN bits) of the next hour; NONE if the choice can't be. */
+        private int nextOf(int low, int truth, int choice) {
             int kept = low >> KEPT_SHIFT;
             int run = low & MOST_VALUE;
             boolean stilled = false;
@@ -1390,8 +1396,6 @@ public final class SoWhen {
 
     /** What a set of pieces asks of each hour. */
     private static final class Asked {
-        private static final int CHOICES = IDLE + 1;
-
         private final World world;
         private final int[] so = new int[HOURS];
         private final int[] notSo = new int[HOURS];
@@ -1513,11 +1517,14 @@ public final class SoWhen {
 
         private final World world;
         private final int[] truth;
+        private final int[] nexts;
         private final Asked asked;
         /** By hour and state: the least price till there; FAR if no course (kept) comes there. */
         private final int[] cost = new int[(HOURS + 1) * STATES];
         /** Of an even and an odd hour's states: ways from there on, or sets of tallied numbers. */
         private final long[] ways = new long[2 * STATES];
+        /** The looks that the hour of a walk can have. */
+        private final int[] looks = new int[STATES];
         private int tallied = 0;
 
         int cheapest = NONE;
@@ -1528,9 +1535,10 @@ public final class SoWhen {
         final int[] chosen = new int[HOURS];
         final int[] values = new int[HOURS];
 
-        Courses(World world, int[] truth) {
+        Courses(World world, int[] truth, int[] nexts) {
             this.world = world;
             this.truth = truth;
+            this.nexts = nexts;
             this.asked = new Asked(world);
         }
 
@@ -1565,15 +1573,18 @@ public final class SoWhen {
             return best < FAR;
         }
 
-        /** Keeps the states of courses of least price alone, and notes what is so in them. */
-        void keepBest() {
+        /**
+         * Keeps the states of courses of least price alone, from the last hour back to a first one,
+         * and notes what is so in them. Only from hour 0 on there is a count.
+         */
+        void keepBest(int first) {
             for (int i = 0; i < STATES; i++) {
                 int at = HOURS * STATES + i;
                 boolean best = cost[at] == cheapest;
                 cost[at] = best ? cost[at] : FAR;
                 ways[layerOf(HOURS) + i] = best ? 1 : 0;
             }
-            for (int hour = HOURS - 1; hour >= 0; hour--) {
+            for (int hour = HOURS - 1; hour >= first; hour--) {
                 always[hour] = -1;
                 sometimes[hour] = 0;
                 chosen[hour] = 0;
@@ -1582,8 +1593,7 @@ public final class SoWhen {
                 walk(KEEPING, hour);
                 dropUnkept(hour);
             }
-            count = 0;
-            for (int i = 0; i < STATES; i++) {
+            for (int i = 0; first == 0 && i < STATES; i++) {
                 count = atMost(count + ways[layerOf(0) + i]);
             }
         }
@@ -1647,24 +1657,50 @@ public final class SoWhen {
         }
 
         private void walk(int pass, int hour) {
-            int looks = world.freeLooks();
+            int count = gatherLooks(pass, hour);
+            for (int choice = 0; choice < CHOICES; choice++) {
+                if (!asked.mayChoose(hour, choice)) {
+                    continue;
+                }
+                int price = asked.costOf(hour, choice);
+                for (int i = 0; i < count; i++) {
+                    int next = nexts[looks[i] * CHOICES + choice];
+                    if (next != NONE) {
+                        meet(pass, hour, looks[i], next, choice, price);
+                    }
+                }
+            }
+        }
+
+        /** To find prices, one look is enough of those from which the same steps go on. */
+        private int gatherLooks(int pass, int hour) {
+            int frees = world.freeLooks();
             int below = world.keptStates() << KEPT_SHIFT;
+            int count = 0;
             for (int low = 0; low < below; low++) {
                 if (!isReached(hour, low)) {
                     continue;
                 }
-                for (int free = 0; free < looks; free++) {
-                    int stands = truth[free << TOP_SHIFT | low];
-                    if (!asked.allows(hour, stands, low & MOST_VALUE)) {
-                        continue;
-                    }
-                    for (int choice = 0; choice <= IDLE; choice++) {
-                        if (asked.mayChoose(hour, choice)) {
-                            meet(pass, hour, low, stands, choice);
-                        }
+                int first = count;
+                for (int free = 0; free < frees; free++) {
+                    int look = free << TOP_SHIFT | low;
+                    if (asked.allows(hour, truth[look], low & MOST_VALUE)
+                            && (pass != FINDING || !goesOnAsOne(look, first, count))) {
+                        looks[count] = look;
+                        count++;
                     }
                 }
             }
+            return count;
+        }
+
+        private boolean goesOnAsOne(int look, int first, int count) {
+            for (int i = first; i < count; i++) {
+                if (truth[looks[i]] >> LAW_BITS == truth[look] >> LAW_BITS) {
+                    return true;
+                }
+            }
+            return false;
         }
 
         private boolean isReached(int hour, int low) {
@@ -1677,18 +1713,14 @@ public final class SoWhen {
             return false;
         }
 
-        private void meet(int pass, int hour, int low, int stands, int choice) {
-            int next = world.nextOf(low, stands, choice);
-            if (next == NONE) {
-                return;
-            }
-            int price = asked.costOf(hour, choice);
+        private void meet(int pass, int hour, int look, int next, int choice, int price) {
+            int low = look & LOW_BITS;
             int flags = asked.flagStates();
             for (int flag = 0; flag < flags; flag++) {
                 int from = flag << TOP_SHIFT | low;
-                int after = asked.flagsAfter(flag, hour, choice);
                 int till = cost[hour * STATES + from] + price;
-                if (after == NONE || till >= FAR) {
+                int after = till < FAR ? asked.flagsAfter(flag, hour, choice) : NONE;
+                if (after == NONE) {
                     continue;
                 }
                 int to = after << TOP_SHIFT | next;
@@ -1697,9 +1729,9 @@ public final class SoWhen {
                     cost[there] = Math.min(cost[there], till);
                 } else if (cost[there] == till) {
                     if (pass == KEEPING) {
-                        keep(hour, from, to, stands, choice);
+                        keep(hour, from, to, truth[look], choice);
                     } else {
-                        addTally(hour, from, to, stands, choice);
+                        addTally(hour, from, to, truth[look], choice);
                     }
                 }
             }
