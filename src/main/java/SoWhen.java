@@ -53,12 +53,12 @@ public final class SoWhen {
     private static final int CHOICES = IDLE + 1;
 
     /**
-     * A state of an hour: two bits of SPAN pieces that came already, five of KEPT things, three of
-     * the RUNNING thing's value. A look puts the two bits of FREE things in the place of the first.
+     * A state of an hour: two bits of SPAN pieces that came already above eight low ones: the
+     * RUNNING thing's value above as many as there are KEPT things. A look is such, with two bits
+     * of FREE things in the place of those of SPAN pieces.
      */
     private static final int STATES = 1024;
     private static final int TOP_SHIFT = 8;
-    private static final int KEPT_SHIFT = 3;
     private static final int LOW_BITS = (1 << TOP_SHIFT) - 1;
 
     /** In a look's truth: the things' bits from 0 on, then the happenings' conditions, then this. */
@@ -1213,21 +1213,24 @@ public final class SoWhen {
             return 1 << countOf(FREE);
         }
 
-        int keptStates() {
-            return 1 << countOf(KEPT);
+        int lowStates() {
+            return (countOf(RUNNING) == 0 ? 1 : MOST_VALUE + 1) << countOf(KEPT);
         }
 
         /** By look what stands in it; by look and choice the state (but SPAN bits) to follow. */
         void fillTables(int[] truth, int[] nexts) {
             int looks = freeLooks();
-            int below = keptStates() << KEPT_SHIFT;
+            int lows = lowStates();
+            int keptBits = countOf(KEPT);
             for (int free = 0; free < looks; free++) {
-                for (int low = 0; low < below; low++) {
+                for (int low = 0; low < lows; low++) {
                     int look = free << TOP_SHIFT | low;
-                    int stands = truthOf(free, low >> KEPT_SHIFT, low & MOST_VALUE);
+                    int run = low >> keptBits;
+                    int kept = low & (1 << keptBits) - 1;
+                    int stands = truthOf(free, kept, run);
                     truth[look] = stands;
                     for (int choice = 0; choice < CHOICES; choice++) {
-                        nexts[look * CHOICES + choice] = nextOf(low, stands, choice);
+                        nexts[look * CHOICES + choice] = nextOf(kept, run, stands, choice);
                     }
                 }
             }
@@ -1269,9 +1272,9 @@ public final class SoWhen {
         }
 
         /** The state (but SPAN bits) of the next hour; NONE if the choice can't be. */
-        private int nextOf(int low, int truth, int choice) {
-            int kept = low >> KEPT_SHIFT;
-            int run = low & MOST_VALUE;
+        private int nextOf(int keptNow, int runNow, int truth, int choice) {
+            int kept = keptNow;
+            int run = runNow;
             boolean stilled = false;
             if (choice >= 0 && choice < happenings) {
                 Law law = laws[choice];
@@ -1289,7 +1292,7 @@ public final class SoWhen {
             } else if ((truth >> RUNS_BIT & 1) != 0 && run < MOST_VALUE) {
                 run++;
             }
-            return kept << KEPT_SHIFT | run;
+            return run << countOf(KEPT) | kept;
         }
     }
 
@@ -1525,6 +1528,10 @@ public final class SoWhen {
         private final long[] ways = new long[2 * STATES];
         /** The looks that the hour of a walk can have. */
         private final int[] looks = new int[STATES];
+        private int keptBits = 0;
+        /** How many low bits a state can have; below which number all states are. */
+        private int lows = 1;
+        private int states = 1;
         private int tallied = 0;
 
         int cheapest = NONE;
@@ -1556,16 +1563,19 @@ public final class SoWhen {
         }
 
         private boolean findAsked() {
-            Arrays.fill(cost, FAR);
-            int starts = world.keptStates();
-            for (int kept = 0; kept < starts; kept++) {
-                cost[kept << KEPT_SHIFT] = 0;
+            keptBits = world.countOf(KEPT);
+            lows = world.lowStates();
+            states = (asked.flagStates() - 1 << TOP_SHIFT) + lows;
+            clearCosts(0);
+            for (int kept = 0; kept < 1 << keptBits; kept++) {
+                cost[kept] = 0;
             }
             for (int hour = 0; hour < HOURS; hour++) {
+                clearCosts(hour + 1);
                 walk(FINDING, hour);
             }
             int best = FAR;
-            for (int i = 0; i < STATES; i++) {
+            for (int i = 0; i < states; i++) {
                 best = Math.min(best, cost[HOURS * STATES + i]);
             }
             cheapest = best < FAR ? best : NONE;
@@ -1578,7 +1588,7 @@ public final class SoWhen {
          * and notes what is so in them. Only from hour 0 on there is a count.
          */
         void keepBest(int first) {
-            for (int i = 0; i < STATES; i++) {
+            for (int i = 0; i < states; i++) {
                 int at = HOURS * STATES + i;
                 boolean best = cost[at] == cheapest;
                 cost[at] = best ? cost[at] : FAR;
@@ -1593,21 +1603,27 @@ public final class SoWhen {
                 walk(KEEPING, hour);
                 dropUnkept(hour);
             }
-            for (int i = 0; first == 0 && i < STATES; i++) {
+            for (int i = 0; first == 0 && i < states; i++) {
                 count = atMost(count + ways[layerOf(0) + i]);
+            }
+        }
+
+        private void clearCosts(int hour) {
+            for (int i = 0; i < states; i++) {
+                cost[hour * STATES + i] = FAR;
             }
         }
 
         private void clearWays(int hour) {
             int layer = layerOf(hour);
-            for (int i = 0; i < STATES; i++) {
+            for (int i = 0; i < states; i++) {
                 ways[layer + i] = 0;
             }
         }
 
         private void dropUnkept(int hour) {
             int layer = layerOf(hour);
-            for (int i = 0; i < STATES; i++) {
+            for (int i = 0; i < states; i++) {
                 if (ways[layer + i] == 0) {
                     cost[hour * STATES + i] = FAR;
                 }
@@ -1620,7 +1636,7 @@ public final class SoWhen {
                 return 0;
             }
             tallied = bit;
-            for (int i = 0; i < STATES; i++) {
+            for (int i = 0; i < states; i++) {
                 ways[layerOf(p) + i] = cost[p * STATES + i] < FAR ? 1 : 0;
             }
             for (int hour = p; hour <= q; hour++) {
@@ -1628,7 +1644,7 @@ public final class SoWhen {
                 walk(TALLYING, hour);
             }
             long numbers = 0;
-            for (int i = 0; i < STATES; i++) {
+            for (int i = 0; i < states; i++) {
                 numbers |= ways[layerOf(q + 1) + i];
             }
             return (int) numbers;
@@ -1675,16 +1691,15 @@ public final class SoWhen {
         /** To find prices, one look is enough of those from which the same steps go on. */
         private int gatherLooks(int pass, int hour) {
             int frees = world.freeLooks();
-            int below = world.keptStates() << KEPT_SHIFT;
             int count = 0;
-            for (int low = 0; low < below; low++) {
+            for (int low = 0; low < lows; low++) {
                 if (!isReached(hour, low)) {
                     continue;
                 }
                 int first = count;
                 for (int free = 0; free < frees; free++) {
                     int look = free << TOP_SHIFT | low;
-                    if (asked.allows(hour, truth[look], low & MOST_VALUE)
+                    if (asked.allows(hour, truth[look], low >> keptBits)
                             && (pass != FINDING || !goesOnAsOne(look, first, count))) {
                         looks[count] = look;
                         count++;
@@ -1743,7 +1758,7 @@ public final class SoWhen {
             always[hour] &= stands;
             sometimes[hour] |= stands;
             chosen[hour] |= 1 << choice;
-            values[hour] |= 1 << (from & MOST_VALUE);
+            values[hour] |= 1 << ((from & LOW_BITS) >> keptBits);
         }
 
         private void addTally(int hour, int from, int to, int stands, int choice) {

@@ -11,6 +11,8 @@ public final class CoursesByOracleTest {
     private Oracle oracle;
     private SoWhen program;
     private StringBuilder story;
+    /** Whether there are to be as many things and pieces as may be. */
+    private boolean full;
 
     public static void main(String[] args) {
         int first = args.length > 0 ? Integer.parseInt(args[0]) : 1;
@@ -44,6 +46,7 @@ public final class CoursesByOracleTest {
         program = new SoWhen();
         story = new StringBuilder("draw " + number + ":\n");
         boolean small = number % 2 == 0;
+        full = number % 10 == 5;
         drawThings(small);
         drawLaws(small);
         drawPieces(small ? 5 : 8, small);
@@ -55,12 +58,12 @@ public final class CoursesByOracleTest {
     }
 
     private void drawThings(boolean small) {
-        int[] most = small ? new int[] {1, 2, 1, 1} : new int[] {1 + next(2), 3, 3, 1};
+        int[] most = small ? new int[] {1, 2, 1, 1} : new int[] {1 + next(2), full ? 5 : 3, 3, 1};
         int[] count = new int[4];
-        int wanted = small ? 2 + next(2) : 3 + next(5);
+        int wanted = small ? 2 + next(2) : full ? 40 : 3 + next(5);
         for (int i = 0; i < wanted; i++) {
             int kind = next(4);
-            if (count[kind] >= most[kind] || kind > 1 && oracle.things.isEmpty()) {
+            if (count[kind] >= most[kind] || oracle.things.size() == 10 || kind > 1 && oracle.things.isEmpty()) {
                 continue;
             }
             String text = kind > 1 ? drawCondition() : "";
@@ -105,7 +108,7 @@ public final class CoursesByOracleTest {
     }
 
     private void drawLaws(boolean small) {
-        int wanted = small ? 1 + next(2) : 1 + next(5);
+        int wanted = small ? 1 + next(2) : full ? 6 : 1 + next(5);
         for (int i = 0; i < wanted; i++) {
             StringBuilder text = new StringBuilder(next(3) == 0 ? "" : drawCondition());
             text.append(':');
@@ -133,7 +136,7 @@ public final class CoursesByOracleTest {
     }
 
     private void drawPieces(int most, boolean small) {
-        int wanted = next(most + 1);
+        int wanted = next(full ? 13 : most + 1);
         for (int i = 0; i < wanted; i++) {
             drawPiece();
         }
