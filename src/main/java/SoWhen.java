@@ -364,7 +364,7 @@ public final class SoWhen {
 
     /** Promise 22. */
     public int is(int thing, int hour) {
-        return soNow(thing, hour);
+        return isThing(thing) && isHour(hour) ? current().soOf(thing, hour) : NONE;
     }
 
     /** Promise 23. */
@@ -378,7 +378,10 @@ public final class SoWhen {
 
     /** Promise 24. */
     public int why(int thing, int hour) {
-        int so = soNow(thing, hour);
+        if (!isThing(thing) || !isHour(hour)) {
+            return NONE;
+        }
+        int so = current().soOf(thing, hour);
         if (so != 0 && so != 1) {
             return NONE;
         }
@@ -400,7 +403,7 @@ public final class SoWhen {
         int stay = world.inForce();
         for (int piece = 0; piece < world.pieces; piece++) {
             int others = stay & ~(1 << piece);
-            if (others != stay && !trial.find(others)) {
+            if (others != stay && !trial.find(others, NONE, NONE)) {
                 stay = others;
             }
         }
@@ -418,7 +421,7 @@ public final class SoWhen {
         for (int piece = 0; piece < world.pieces; piece++) {
             int weight = world.weightOf(piece);
             int others = all & ~(1 << piece);
-            if (others != all && weight < lightest && trial.find(others)) {
+            if (others != all && weight < lightest && trial.find(others, NONE, NONE)) {
                 found = piece;
                 lightest = weight;
             }
@@ -462,7 +465,7 @@ public final class SoWhen {
 
     /** Promise 31. */
     public int since(int thing, int hour) {
-        if (soNow(thing, hour) != 1) {
+        if (!isThing(thing) || !isHour(hour) || current().soOf(thing, hour) != 1) {
             return NONE;
         }
         int first = hour;
@@ -663,7 +666,7 @@ public final class SoWhen {
         freshenTruth();
         if (nowStale) {
             nowStale = false;
-            if (now.find(world.inForce())) {
+            if (now.find(world.inForce(), NONE, NONE)) {
                 now.keepBest(0);
             }
         }
@@ -677,14 +680,10 @@ public final class SoWhen {
         }
     }
 
-    private int soNow(int thing, int hour) {
-        return isThing(thing) && isHour(hour) ? current().soOf(thing, hour) : NONE;
-    }
-
     /** What is() would answer by a set of pieces alone. */
     private int seems(int set, int thing, int hour) {
         freshenTruth();
-        if (!trial.find(set)) {
+        if (!trial.find(set, NONE, NONE)) {
             return NONE;
         }
         trial.keepBest(hour);
@@ -696,7 +695,7 @@ public final class SoWhen {
         if (world.isSeenIn(hour) || !now.surely(LAW_BITS + happening, hour)) {
             return false;
         }
-        if (!trial.findWith(world.inForce(), happening, hour)) {
+        if (!trial.find(world.inForce(), happening, hour)) {
             return false;
         }
         trial.keepBest(q);
@@ -1409,7 +1408,7 @@ public final class SoWhen {
         /** Bits of SPAN pieces: which a choice in an hour brings; which are due by an hour's end. */
         private final int[] brought = new int[HOURS * CHOICES];
         private final int[] due = new int[HOURS];
-        private int spans = 0;
+        int spans = 0;
 
         Asked(World world) {
             this.world = world;
@@ -1480,10 +1479,6 @@ public final class SoWhen {
             }
         }
 
-        int flagStates() {
-            return 1 << spans;
-        }
-
         boolean allows(int hour, int truth, int run) {
             return (truth & so[hour]) == so[hour] && (truth & notSo[hour]) == 0
                     && (values[hour] >> run & 1) != 0;
@@ -1529,8 +1524,9 @@ public final class SoWhen {
         /** The looks that the hour of a walk can have. */
         private final int[] looks = new int[STATES];
         private int keptBits = 0;
-        /** How many low bits a state can have; below which number all states are. */
+        /** How many low parts, and SPAN bits, states can have; below which number all states are. */
         private int lows = 1;
+        private int flags = 1;
         private int states = 1;
         private int tallied = 0;
 
@@ -1549,30 +1545,23 @@ public final class SoWhen {
             this.asked = new Asked(world);
         }
 
-        /** Finds the least price by a set of pieces; false if there is no course. */
-        boolean find(int set) {
+        /**
+         * Finds the least price by a set of pieces and, unless it is NONE, by a happening SEEN in
+         * an hour as one piece more; false if there is no course.
+         */
+        boolean find(int set, int happening, int hour) {
             asked.gather(set);
-            return findAsked();
-        }
-
-        /** The same with one piece SEEN more. */
-        boolean findWith(int set, int happening, int hour) {
-            asked.gather(set);
-            asked.addSeen(happening, hour);
-            return findAsked();
-        }
-
-        private boolean findAsked() {
-            keptBits = world.countOf(KEPT);
-            lows = world.lowStates();
-            states = (asked.flagStates() - 1 << TOP_SHIFT) + lows;
+            if (happening != NONE) {
+                asked.addSeen(happening, hour);
+            }
+            sizeUp();
             clearCosts(0);
             for (int kept = 0; kept < 1 << keptBits; kept++) {
                 cost[kept] = 0;
             }
-            for (int hour = 0; hour < HOURS; hour++) {
-                clearCosts(hour + 1);
-                walk(FINDING, hour);
+            for (int h = 0; h < HOURS; h++) {
+                clearCosts(h + 1);
+                walk(FINDING, h);
             }
             int best = FAR;
             for (int i = 0; i < states; i++) {
@@ -1581,6 +1570,13 @@ public final class SoWhen {
             cheapest = best < FAR ? best : NONE;
             count = 0;
             return best < FAR;
+        }
+
+        private void sizeUp() {
+            keptBits = world.countOf(KEPT);
+            lows = world.lowStates();
+            flags = 1 << asked.spans;
+            states = (flags - 1 << TOP_SHIFT) + lows;
         }
 
         /**
@@ -1604,7 +1600,7 @@ public final class SoWhen {
                 dropUnkept(hour);
             }
             for (int i = 0; first == 0 && i < states; i++) {
-                count = atMost(count + ways[layerOf(0) + i]);
+                count = Math.min(count + ways[layerOf(0) + i], MOST_COURSES);
             }
         }
 
@@ -1668,10 +1664,6 @@ public final class SoWhen {
             return (hour & 1) * STATES;
         }
 
-        private static long atMost(long number) {
-            return Math.min(number, MOST_COURSES);
-        }
-
         private void walk(int pass, int hour) {
             int count = gatherLooks(pass, hour);
             for (int choice = 0; choice < CHOICES; choice++) {
@@ -1719,7 +1711,6 @@ public final class SoWhen {
         }
 
         private boolean isReached(int hour, int low) {
-            int flags = asked.flagStates();
             for (int flag = 0; flag < flags; flag++) {
                 if (cost[hour * STATES + (flag << TOP_SHIFT | low)] < FAR) {
                     return true;
@@ -1730,7 +1721,6 @@ public final class SoWhen {
 
         private void meet(int pass, int hour, int look, int next, int choice, int price) {
             int low = look & LOW_BITS;
-            int flags = asked.flagStates();
             for (int flag = 0; flag < flags; flag++) {
                 int from = flag << TOP_SHIFT | low;
                 int till = cost[hour * STATES + from] + price;
@@ -1754,7 +1744,7 @@ public final class SoWhen {
 
         private void keep(int hour, int from, int to, int stands, int choice) {
             int at = layerOf(hour) + from;
-            ways[at] = atMost(ways[at] + ways[layerOf(hour + 1) + to]);
+            ways[at] = Math.min(ways[at] + ways[layerOf(hour + 1) + to], MOST_COURSES);
             always[hour] &= stands;
             sometimes[hour] |= stands;
             chosen[hour] |= 1 << choice;

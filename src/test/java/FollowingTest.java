@@ -290,6 +290,8 @@ public final class FollowingTest {
         x.seen(1, 0, 0);
         DUE.is("not where one is seen", x.plan(0, 0, 5), 10);
         DUE.is("nowhere else", x.plan(0, 0, 1), -1);
+        DUE.is("not where the same is seen", x.plan(1, 0, 5), 10);
+        DUE.is("nowhere else", x.plan(1, 0, 1), -1);
         x.by(2, true);
         DUE.is("one put by is of no set", x.plan(0, 0, 1), 0);
         x.span(0, 0, 3, true, 0);
@@ -324,6 +326,8 @@ public final class FollowingTest {
         DUE.is("no course", x.seemed(1, 9, 0, 0), -1);
         x.by(5, true);
         DUE.is("put by", x.seemed(1, 9, 0, 0), 0);
+        Due.thing(x, 2, "!0");
+        DUE.is("of a thing asked first so", x.seemed(1, 9, 1, 0), 1);
         DUE.is("seemed", x.seemed(1, 9, 0, 8), 1);
     }
 

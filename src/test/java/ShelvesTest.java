@@ -181,6 +181,7 @@ public final class ShelvesTest {
         x.was(0, 0, 6, 6, 2);
         x.show(0, 1);
         x.show(1, 2);
+        x.show(3, 0);
         x.row(2, 0, 1);
         x.price(0, 9);
         x.weigh(1, 8);
@@ -199,6 +200,7 @@ public final class ShelvesTest {
         DUE.is("holds", x.holds(0), 1);
         DUE.is("holds", x.holds(1), -1);
         DUE.is("holds", x.holds(2), 100);
+        DUE.is("holds", x.holds(3), 0);
         DUE.is("fault stays", x.fault(), fault);
         DUE.is("trace stays", x.trace(0), 30);
         DUE.is("refusals stay", x.status(16), 3);
@@ -211,7 +213,14 @@ public final class ShelvesTest {
         DUE.is("put by", x.status(3), 1);
         DUE.is("price again", x.price(0, 3), 4);
         DUE.is("image again", x.image(), 2);
+        for (int s = 0; s < 8; s++) {
+            x.was(0, 1, 5, 5, 1);
+            DUE.is("show", x.show(s, 2), 1);
+        }
         x.restore();
+        for (int s = 0; s < 8; s++) {
+            DUE.is("holds", x.holds(s), -1);
+        }
         DUE.is("price by the later image", x.price(0, 3), 3);
     }
 
