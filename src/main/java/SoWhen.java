@@ -67,7 +67,7 @@ public final class SoWhen {
 
     private final Shelf[] shelves = new Shelf[SHELVES];
     private final World world = new World();
-    private final World image = new World();
+    private final World taken = new World();
     private final Reader reader = new Reader(world);
     private final int[] truth = new int[STATES];
     private final int[] nexts = new int[STATES * CHOICES];
@@ -518,9 +518,9 @@ public final class SoWhen {
 
     /** Promise 36. */
     public int image() {
-        image.become(world);
+        taken.become(world);
         imaged = true;
-        return image.pieces;
+        return taken.pieces;
     }
 
     /** Promise 37. */
@@ -528,7 +528,7 @@ public final class SoWhen {
         if (!imaged) {
             return refuse(WRONG);
         }
-        world.become(image);
+        world.become(taken);
         truthStale = true;
         nowStale = true;
         for (int s = 0; s < SHELVES; s++) {
@@ -1117,7 +1117,9 @@ public final class SoWhen {
             int thing = things;
             places[thing] = countOf(kind);
             kinds[thing] = kind;
-            conditions[thing].become(condition);
+            if (kind == BY || kind == RUNNING) {
+                conditions[thing].become(condition);
+            }
             things++;
             return thing;
         }
