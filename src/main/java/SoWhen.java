@@ -1142,7 +1142,8 @@ public final class SoWhen {
             }
             int spans = 0;
             for (int i = 0; i < pieces; i++) {
-                if (told[i].kind == SPAN) {
+                Seen piece = told[i];
+                if (piece != null && piece.kind == SPAN) {
                     spans++;
                 }
             }
@@ -1189,7 +1190,8 @@ public final class SoWhen {
         int toldBy(int mouth, int lastHour) {
             int set = 0;
             for (int i = 0; i < pieces; i++) {
-                if (told[i].mouth == mouth && told[i].q <= lastHour) {
+                Seen piece = told[i];
+                if (piece != null && piece.mouth == mouth && piece.q <= lastHour) {
                     set |= 1 << i;
                 }
             }
@@ -1203,7 +1205,8 @@ public final class SoWhen {
 
         boolean isSeenIn(int hour) {
             for (int i = 0; i < pieces; i++) {
-                if (told[i].kind == SEEN && told[i].p == hour && !isPutBy(i)) {
+                Seen piece = told[i];
+                if (piece != null && piece.kind == SEEN && piece.p == hour && !isPutBy(i)) {
                     return true;
                 }
             }
@@ -1426,8 +1429,9 @@ public final class SoWhen {
             Arrays.fill(due, 0);
             spans = 0;
             for (int i = 0; i < world.pieces; i++) {
-                if ((set >> i & 1) != 0) {
-                    add(world.told[i]);
+                Seen piece = world.told[i];
+                if (piece != null && (set >> i & 1) != 0) {
+                    add(piece);
                 }
             }
         }
