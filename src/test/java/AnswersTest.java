@@ -421,13 +421,13 @@ public final class AnswersTest {
         DUE.is("the last hour", x.plan(0, 0, 11), 101);
         x.was(0, 0, 11, 11, 0);
         DUE.is("none", x.plan(0, 0, 11), -1);
-        SoWhen y = kept(":b0", ":e0");
-        y.seen(1, 0, 0);
-        y.seen(1, 2, 0);
-        DUE.is("the first piece is seen there", y.plan(0, 0, 1), -1);
-        DUE.is("between them", y.plan(0, 0, 2), 10);
-        DUE.is("the last piece is seen there", y.plan(0, 2, 3), -1);
-        DUE.is("after them", y.plan(0, 0, 11), 30);
+        SoWhen y = kept(":b0");
+        y.seen(0, 3, 0);
+        y.seen(0, 5, 0);
+        DUE.is("the first piece is seen there", y.plan(0, 3, 4), -1);
+        DUE.is("between them", y.plan(0, 3, 5), 40);
+        DUE.is("the last piece is seen there", y.plan(0, 5, 6), -1);
+        DUE.is("after them", y.plan(0, 5, 11), 60);
     }
 
     private static void planConditions() {
